@@ -5,7 +5,7 @@ public final class NoonTrains {
     public static final int NONE = -1, UNKNOWN = -2, OUTSIDE = -3, NOT = -4, FULL = -5;
 
     private static final int MOST_STATIONS = 7, MOST_TRAINS = 12, MOST_TICKETS = 9;
-    private static final int KINDS = 3, SEEKERS = 2, IMAGES = 2;
+    private static final int KINDS = 3, ALL_KINDS = (1 << KINDS) - 1, SEEKERS = 2, IMAGES = 2;
     private static final int MOST_BYTES = 200, MOST_LINES = 10, MOST_RIDES = 12;
     private static final int LAST_LATE_DAY = 40, MOST_CHASE_DAYS = 12;
 
@@ -77,7 +77,7 @@ public final class NoonTrains {
         if (!told.hasStation(station)) {
             return UNKNOWN;
         }
-        return day < 0 ? OUTSIDE : told.departures(station, day);
+        return day < 0 ? OUTSIDE : told.rideable(station, day, ALL_KINDS);
     }
 
     public int as(int train, int as) {
@@ -342,7 +342,7 @@ public final class NoonTrains {
         }
 
         int byteAt(int place) {
-            return within(place, 0, length - 1) && place < MOST_BYTES ? bytes[place] : NONE;
+            return place >= 0 && place < length && place < MOST_BYTES ? bytes[place] : NONE;
         }
     }
 
@@ -392,11 +392,11 @@ public final class NoonTrains {
         }
 
         boolean hasStation(int station) {
-            return within(station, 0, stations - 1);
+            return station >= 0 && station < stations;
         }
 
         boolean hasTrain(int train) {
-            return within(train, 0, trains - 1) && train < MOST_TRAINS;
+            return train >= 0 && train < trains;
         }
 
         boolean isFull() {
@@ -404,7 +404,8 @@ public final class NoonTrains {
         }
 
         int part(int train, int what) {
-            return hasTrain(train) && within(what, 0, ROW - 1) ? rows[train * ROW + what] : NONE;
+            boolean there = train >= 0 && train < trains && train < MOST_TRAINS;
+            return there && what >= 0 && what < ROW ? rows[train * ROW + what] : NONE;
         }
 
         boolean runsOn(int train, int day) {
@@ -416,22 +417,12 @@ public final class NoonTrains {
             return part(train, FROM) == station && runsOn(train, day);
         }
 
-        int departures(int station, int day) {
-            int bits = 0;
-            for (int train = 0; train < trains; train++) {
-                if (leaves(train, station, day)) {
-                    bits |= 1 << train;
-                }
-            }
-            return bits;
-        }
-
         /** Trains that leave a station on a day, of kinds given by bits. */
         int rideable(int station, int day, int kinds) {
-            int bits = departures(station, day);
+            int bits = 0;
             for (int train = 0; train < trains; train++) {
-                if (!hasBit(kinds, part(train, KIND))) {
-                    bits &= ~(1 << train);
+                if (leaves(train, station, day) && hasBit(kinds, part(train, KIND))) {
+                    bits |= 1 << train;
                 }
             }
             return bits;
@@ -451,10 +442,10 @@ public final class NoonTrains {
 
         /** Stations of a set from which no train of these kinds leaves on a day. */
         int stuck(int from, int day, int kinds) {
-            int bits = 0;
-            for (int station = 0; station < stations; station++) {
-                if (hasBit(from, station) && rideable(station, day, kinds) == 0) {
-                    bits |= 1 << station;
+            int bits = from;
+            for (int train = 0; train < trains; train++) {
+                if (runsOn(train, day) && hasBit(kinds, part(train, KIND))) {
+                    bits &= ~(1 << part(train, FROM));
                 }
             }
             return bits;
@@ -869,7 +860,7 @@ public final class NoonTrains {
                 return 1 << NOWHERE;
             }
             int stays = 1 << station;
-            return stays | land.reached(stays, scene.day, (1 << KINDS) - 1, 1);
+            return stays | land.reached(stays, scene.day, ALL_KINDS, 1);
         }
 
         void hide() {
