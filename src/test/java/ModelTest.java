@@ -3,7 +3,7 @@ import java.util.Random;
 
 /** Long runs of calls by chance (fixed seeds), each answer as the slow model gives it. */
 public final class ModelTest {
-    private static final int CALLS = 512;
+    private static final int CALLS = 512, CHOICES = 33;
 
     private final Check check;
     private final Random random;
@@ -19,7 +19,7 @@ public final class ModelTest {
     }
 
     public static void main(String[] args) {
-        int runs = args.length > 0 ? Integer.parseInt(args[0]) : 400;
+        int runs = args.length > 0 ? Integer.parseInt(args[0]) : 1000;
         Check check = new Check("ModelTest");
         for (int seed = 0; seed < runs && !check.isWrong(); seed++) {
             new ModelTest(check, seed).play();
@@ -28,14 +28,19 @@ public final class ModelTest {
     }
 
     private void play() {
-        while (calls < CALLS && !check.isWrong()) {
-            int choice = random.nextInt(100);
-            if (choice < 2) {
+        // A rich timetable first, so that there is much to guess; texts by chance come later.
+        boolean rich = random.nextInt(4) > 0;
+        if (rich) {
+            tellRich();
+        }
+        while (calls < CALLS - 30 && !check.isWrong()) {
+            int choice = random.nextInt(200);
+            if (choice < (rich ? 1 : 6)) {
                 tell();
-            } else if (choice < 45) {
+            } else if (choice < 90) {
                 live();
             } else {
-                call(random.nextInt(26));
+                call(random.nextInt(CHOICES));
             }
         }
     }
@@ -59,6 +64,21 @@ public final class ModelTest {
     }
 
     // ---- texts
+
+    private void tellRich() {
+        int stations = 3 + upTo(4);
+        write("land " + stations + ";show " + (4 + upTo(5)) + ";seeker 0 1" + (random.nextBoolean() ? ";seeker 1 2" : ""));
+        due("land()", real.land(), model.land());
+        for (int part = 0; part < 2; part++) {
+            StringBuilder text = new StringBuilder("start 0");
+            int trains = 4 + upTo(2);
+            for (int i = 0; i < trains; i++) {
+                text.append(';').append(trainLine((part * trains + i) % stations, stations));
+            }
+            write(text.toString());
+            due("land()", real.land(), model.land());
+        }
+    }
 
     private void tell() {
         if (random.nextInt(3) > 0) {
@@ -86,21 +106,26 @@ public final class ModelTest {
 
     private String line(int stations) {
         int s = random.nextInt(stations);
-        int b = (s + 1 + random.nextInt(stations - 1)) % stations;
-        int e = 1 + random.nextInt(random.nextBoolean() ? 1 : 4);
         switch (random.nextInt(9)) {
             case 0: return "start " + s;
             case 1: return "tickets " + upTo(9) + " " + upTo(3) + " " + upTo(9);
             case 2: return "show " + (1 + random.nextInt(9));
             case 3: return "seeker " + upTo(1) + " " + s;
-            default: return "train " + s + " " + b + " " + e + " " + random.nextInt(e) + " "
-                    + (random.nextInt(4) == 0 ? 2 : 1) + " " + upTo(2);
+            default: return trainLine(s, stations);
         }
+    }
+
+    private String trainLine(int a, int stations) {
+        int b = (a + 1 + random.nextInt(stations - 1)) % stations;
+        int e = 1 + random.nextInt(random.nextBoolean() ? 1 : 4);
+        int kind = random.nextInt(3) == 0 ? upTo(2) : 0;
+        return "train " + a + " " + b + " " + e + " " + random.nextInt(e) + " "
+                + (random.nextInt(5) == 0 ? 2 : 1) + " " + kind;
     }
 
     private void spoil(StringBuilder text) {
         int at = random.nextInt(text.length());
-        String[] pieces = {";", " ", "  ", "0", "7", "12", "a", "train", ";;", "\t", "\u00e9", "A", "-", "00", "land 4;", " ; "};
+        String[] pieces = {";", " ", "  ", "0", "7", "12", "a", "train", ";;", "\t", "\u00e9", "A", "-", "00", " ; "};
         switch (random.nextInt(4)) {
             case 0: text.deleteCharAt(at); break;
             case 1: text.setLength(at); break;
@@ -135,7 +160,8 @@ public final class ModelTest {
             int at = model.seeker(seeker);
             int leaving = at < 0 ? 0 : model.runs(at, model.count(4));
             if (leaving != 0 && random.nextInt(3) > 0) {
-                int train = Integer.numberOfTrailingZeros(leaving);
+                int train = random.nextBoolean() ? Integer.numberOfTrailingZeros(leaving)
+                        : 31 - Integer.numberOfLeadingZeros(leaving);
                 due("send", real.send(seeker, train), model.send(seeker, train));
             }
         }
@@ -143,14 +169,17 @@ public final class ModelTest {
             due("noon()", real.noon(), model.noon());
             due("may()", real.may(), model.may());
             due("way()", real.way(), model.way());
+            due("next()", real.next(), model.next());
             due("letter()", real.letter(), model.letter());
         }
-        if (model.he(2) == 1 && random.nextInt(3) == 0) {
-            if (model.back(0) == NoonTrains.NOT) {
-                tell();
-            } else {
-                real.back(0);
-            }
+        if (model.he(2) == 1 && random.nextInt(3) > 0) {
+            int k = upTo(1);
+            due("back(" + k + ")", real.back(k), model.back(k));
+        }
+        if (model.he(2) == 1 && random.nextInt(3) > 0) {
+            due("erase()", real.erase(), model.erase());
+            write("show " + (1 + upTo(8)) + ";start " + random.nextInt(model.count(0)));
+            due("land()", real.land(), model.land());
         }
     }
 
@@ -180,13 +209,20 @@ public final class ModelTest {
             case 14: due("shut(-1)", real.shut(-1), model.shut(-1)); break;
             case 15: due("hides(" + k + ")", real.hides(k), model.hides(k)); break;
             case 16: due("chase()", real.chase(), model.chase()); break;
-            case 17: if (random.nextInt(4) == 0) due("closed(" + k + ")", real.closed(k), model.closed(k)); break;
-            case 18: case 19: logSome(); break;
+            case 17: due("closed(" + k + ")", real.closed(k), model.closed(k)); break;
+            case 18: logSome(); break;
+            case 19: due("log" + with, real.log(a), model.log(a)); break;
             case 20: if (random.nextInt(5) == 0) due("burn()", real.burn(), model.burn()); break;
             case 21: due("judge()", real.judge(), model.judge()); break;
             case 22: due("late" + with, real.late(p, d, k), model.late(p, d, k)); break;
             case 23: due("keep" + with, real.keep(k), model.keep(k)); break;
-            case 24: if (random.nextInt(3) == 0) due("back" + with, real.back(k), model.back(k)); break;
+            case 24: if (random.nextBoolean()) due("back" + with, real.back(k), model.back(k)); break;
+            case 25: case 26: due("keep(" + (b & 1) + ")", real.keep(b & 1), model.keep(b & 1)); break;
+            case 27: if (random.nextBoolean()) due("back(" + (b & 1) + ")", real.back(b & 1), model.back(b & 1)); break;
+            case 28: due("shut(" + (b & 1) + ")", real.shut(b & 1), model.shut(b & 1)); break;
+            case 29: due("hides(" + (b & 1) + ")", real.hides(b & 1), model.hides(b & 1)); break;
+            case 30: due("chase()", real.chase(), model.chase()); break;
+            case 31: due("closed(" + (b & 1) + ")", real.closed(b & 1), model.closed(b & 1)); break;
             default: for (int what = -1; what < 9; what++) due("count(" + what + ")", real.count(what), model.count(what)); break;
         }
     }
@@ -209,9 +245,9 @@ public final class ModelTest {
             due("log(" + train + ")", real.log(train), model.log(train));
             at = Math.max(model.train(train, 1), 0);
         }
-        for (int d = 0; d < 41; d += 5) {
-            due("late(3, " + d + ", 0)", real.late(3, d, 0), model.late(3, d, 0));
-            due("late(3, " + d + ", 1)", real.late(3, d, 1), model.late(3, d, 1));
-        }
+        int p = upTo(10);
+        int d = random.nextInt(3) == 0 ? 40 : upTo(40);
+        due("late(" + p + ", " + d + ", 0)", real.late(p, d, 0), model.late(p, d, 0));
+        due("late(" + p + ", " + d + ", 1)", real.late(p, d, 1), model.late(p, d, 1));
     }
 }

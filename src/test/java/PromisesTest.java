@@ -169,6 +169,8 @@ public final class PromisesTest {
         faults(x, "5", 0);
         faults(x, " shows 5", 1);
         faults(x, "sho 5", 0);
+        faults(x, "xhow 5", 0);
+        faults(x, "shox 5", 0);
         faults(x, "showshow 5", 0);
         faults(x, "  show5  ;  land2  ", NONE);
         faults(x, "land 2;train0 1 1 0 1 0;start1;tickets0 9 0;show9;seeker1 1", NONE);
@@ -330,6 +332,10 @@ public final class PromisesTest {
         }
         due("train(4, 4)", x.train(4, 4), 2);
         due("train(6, 0)", x.train(6, 0), UNKNOWN);
+        NoonTrains full = Check.landed(trains(10), "train 2 1 4 3 2 2;train 1 2 4 2 2 1");
+        due("train(11, 0)", full.train(11, 0), 1);
+        due("train(11, 5)", full.train(11, 5), 1);
+        due("train(12, 0)", full.train(12, 0), UNKNOWN);
         due("train(-1, 0)", x.train(-1, 0), UNKNOWN);
         due("train(high, 9)", x.train(HIGH, 9), UNKNOWN);
         due("train(low, 0)", x.train(LOW, 0), UNKNOWN);
@@ -560,6 +566,10 @@ public final class PromisesTest {
         due("all by kind 0", z.may(), 1 << 1 | 1 << 2 | 1 << 3);
         z.noon();
         due("none used and none could be: all stay, who was on the way comes", z.may(), 1 << 1 | 1 << 2 | 1 << 3 | 1 << 4);
+        NoonTrains back = Check.landed("land 4;train 1 0 1 0 1 0;train 1 2 1 0 1 0;train 1 3 1 0 1 0;start 1;seeker 0 0;seeker 1 3");
+        back.ride(1);
+        back.noon();
+        due("both seekers leave a station out", back.may(), 4);
         NoonTrains c = Check.landed("land 4;train 0 1 1 0 1 0;train 0 2 1 0 1 0;train 0 3 1 0 2 0;seeker 0 1;seeker 1 2");
         c.ride(0);
         due("caught", c.noon(), 1);
@@ -822,6 +832,17 @@ public final class PromisesTest {
         y.log(0);
         y.log(2);
         due("that runs on other days", y.judge(), 1);
+        NoonTrains z = Check.landed("land 3;train 0 1 2 0 1 0;train 1 0 2 1 1 2;train 1 2 2 0 1 2;tickets 9 9 1");
+        z.log(0);
+        z.log(1);
+        z.log(0);
+        due("a night each", z.judge(), NONE);
+        z.log(1);
+        due("one ticket of kind 2", z.judge(), 3);
+        z.burn();
+        z.log(0);
+        z.log(2);
+        due("that ran the day ahead", z.judge(), 1);
         y.ride(0);
         y.noon();
         y.burn();
@@ -864,6 +885,15 @@ public final class PromisesTest {
         due("twelve, none late", y.late(3, 12, 0), 13841287201L);
         due("of all", y.late(3, 12, 1), 1000000000000L);
         due("at most eleven late", y.late(1, 23, 0), 999999999999L);
+        NoonTrains z = Check.landed("land 2;train 0 1 4 3 1 0;train 1 0 4 3 1 0");
+        for (int i = 0; i < 10; i++) {
+            z.log(i % 2);
+        }
+        due("the tenth leaves on DAY 39", z.late(3, 39, 0), 0);
+        due("it comes on DAY 40 or later", z.late(3, 40, 0), 7);
+        due("7 of 10", z.late(3, 40, 1), 10);
+        z.log(0);
+        due("an eleventh comes later", z.late(0, 40, 0), 0);
     }
 
     // ---- promises 26, 27
@@ -911,10 +941,29 @@ public final class PromisesTest {
         y.back(0);
         due("as it was sent", y.noon(), 1);
         due("keep of one caught", y.keep(1), 1);
+        due("where the seeker is", y.seeker(1), 0);
         due("back ahead of it", y.back(0), 0);
         due("free", y.he(2), 0);
+        due("the seeker is where it was", y.seeker(1), 1);
         due("back to it", y.back(1), 1);
         due("caught", y.he(2), 1);
+        NoonTrains z = Check.landed("land 3;train 0 1 1 0 2 2;tickets 0 0 1");
+        z.keep(0);
+        z.ride(0);
+        z.noon();
+        z.keep(1);
+        z.back(0);
+        due("not on the way yet", z.he(1), 0);
+        due("with the ticket", z.he(5), 1);
+        due("nor by what is known", z.way(), 0);
+        z.back(1);
+        due("on the way", z.he(1), 1);
+        due("without the ticket", z.he(5), 0);
+        due("and by what is known", z.way(), 2);
+        Check.write(z, "show 5");
+        z.land();
+        due("a text ends the way", z.he(1), 0);
+        due("and what was known of it", z.way(), 0);
     }
 
     // ---- promise 28
