@@ -53,24 +53,6 @@ public final class PromisesTest {
         CHECK.due(call, got, want);
     }
 
-    /** All that can be asked without a change, so that a refused call can be seen to change nothing. */
-    private static String seen(NoonTrains x) {
-        StringBuilder all = new StringBuilder();
-        for (int what = 0; what < 8; what++) {
-            all.append(x.count(what)).append(' ').append(x.he(what)).append(' ');
-        }
-        for (int train = 0; train < x.count(1); train++) {
-            for (int what = 0; what < 6; what++) {
-                all.append(x.train(train, what)).append(' ');
-            }
-        }
-        all.append(x.seeker(0)).append(' ').append(x.seeker(1)).append(' ').append(x.may()).append(' ');
-        all.append(x.way()).append(' ').append(x.next()).append(' ').append(x.letter()).append(' ');
-        all.append(x.fault()).append(' ').append(x.judge()).append(' ').append(x.late(3, 20, 0)).append(' ');
-        all.append(x.shut(NONE)).append(' ').append(x.hides(0)).append(' ').append(x.chase());
-        return all.toString();
-    }
-
     private static void faults(NoonTrains x, String text, int want) {
         int stations = x.count(0);
         int trains = x.count(1);
@@ -388,13 +370,13 @@ public final class PromisesTest {
         due("ride of one who goes", x.ride(0), 1);
         due("ride of two nights", x.ride(6), 3);
         due("told again", x.ride(7), 2);
-        String ahead = seen(x);
+        String ahead = Sight.now(x);
         due("ride(-1)", x.ride(-1), UNKNOWN);
         due("ride(8)", x.ride(8), UNKNOWN);
         due("ride(high)", x.ride(HIGH), UNKNOWN);
         due("ride from elsewhere", x.ride(1), NOT);
         due("ride that does not run", x.ride(4), NOT);
-        CHECK.holds("refused rides change nothing", seen(x).equals(ahead));
+        CHECK.holds("refused rides change nothing", Sight.now(x).equals(ahead));
         x.send(0, 2);
         due("noon by the last ride told", x.noon(), 0);
         due("HE is there", x.he(0), 2);
@@ -420,7 +402,7 @@ public final class PromisesTest {
         due("send needs no ticket", x.send(0, 8), 1);
         due("send of NONE", x.send(0, NONE), 2);
         due("send told again", x.send(0, 2), 3);
-        String ahead = seen(x);
+        String ahead = Sight.now(x);
         due("send(2, 0)", x.send(2, 0), UNKNOWN);
         due("send(-1, 0)", x.send(-1, 0), UNKNOWN);
         due("send(high, 2)", x.send(HIGH, 2), UNKNOWN);
@@ -432,7 +414,7 @@ public final class PromisesTest {
         due("send from elsewhere", x.send(0, 0), NOT);
         due("send by two nights", x.send(0, 6), NOT);
         due("send on another day", x.send(0, 7), NOT);
-        CHECK.holds("refused sends change nothing", seen(x).equals(ahead));
+        CHECK.holds("refused sends change nothing", Sight.now(x).equals(ahead));
         x.ride(0);
         due("noon", x.noon(), 0);
         due("the seeker is there", x.seeker(0), 3);
@@ -904,7 +886,7 @@ public final class PromisesTest {
         x.noon();
         x.ride(5);
         due("keep on DAY 1", x.keep(1), 1);
-        String kept = seen(x);
+        String kept = Sight.now(x);
         due("keep(2)", x.keep(2), UNKNOWN);
         due("keep(-1)", x.keep(-1), UNKNOWN);
         due("back(2)", x.back(2), UNKNOWN);
@@ -914,11 +896,11 @@ public final class PromisesTest {
         due("keep on DAY 2", x.keep(0), 2);
         due("noon", x.noon(), 0);
         due("back to DAY 1", x.back(1), 1);
-        CHECK.holds("all is as it was kept", seen(x).equals(kept));
+        CHECK.holds("all is as it was kept", Sight.now(x).equals(kept));
         due("what was told for that day too", x.noon(), 0);
         due("HE rode as told", x.he(0), 5);
         due("back once more", x.back(1), 1);
-        CHECK.holds("the image stays as it was", seen(x).equals(kept));
+        CHECK.holds("the image stays as it was", Sight.now(x).equals(kept));
         due("back on to DAY 2", x.back(0), 2);
         due("HE is at 5", x.he(0), 5);
         due("keep over it", x.keep(1), 2);
