@@ -5,7 +5,7 @@ import java.util.Random;
  * and were not refused. A refused call, and one that only asks, changes nothing, so both stay the same.
  */
 public final class RefusedTest {
-    private static final int RUNS = 600, STEPS = 140, REFUSED = -2;
+    private static final int RUNS = 600, STEPS = 90, REFUSED = -2;
 
     private final Random random;
     private final Check check;
