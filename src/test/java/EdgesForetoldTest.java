@@ -441,6 +441,9 @@ public final class EdgesForetoldTest {
     private static void closed() {
         DOC.promise(21, "CLOSED: the TRAIN (what 0; NONE: there are no TRAINS), DAYS then (1; NONE).");
         closedIs(Check.landed("seeker 0 1"), NONE, NONE);
+        // Without a TRAIN there are no DAYS "then", also for one who is CAUGHT already.
+        closedIs(Check.landed("seeker 0 0"), NONE, NONE);
+        closedIs(Check.landed(TRIANGLE + "seeker 0 0"), 0, 0);
         closedIs(Check.landed(TRIANGLE + "seeker 0 1"), 0, 1);
         closedIs(Check.landed("train 0 1 1 0 1 0;seeker 0 2"), 0, NONE);
         closedIs(Check.landed("train 0 1 1 0 2 0;seeker 0 1"), 0, NONE);
